@@ -208,7 +208,8 @@ public final class NextLight {
         if (walker != NONE && !town.hasWalker(walker)) {
             return OTHERS;
         }
-        return ahead.bestDelay(town, now, walker);
+        ahead.findDelays(town, now);
+        return walker == NONE ? ahead.delayDark : ahead.delays[walker];
     }
 
     public int boys() {
@@ -430,8 +431,7 @@ public final class NextLight {
         static final int TOLD = 19;
         static final int LATE = 22;
         /** By the numbers above; those before told can be no NAME. */
-        static final String WORDS = "place lane burns walker from to at boy minute send wait back"
-            + " plain lamp blind drunk not and or told left feet late ";
+        static final String WORDS = "place lane burns walker from to at boy minute send wait back plain lamp blind drunk not and or told left feet late ";
         static final int MOST_WORDS = 23;
         static final String SIGNS = "()<=+-*;";
 
@@ -464,7 +464,7 @@ public final class NextLight {
 
         void advance() {
             start = end;
-            while (start < tape.length && isBlank(tape.signs[start])) {
+            while (start < tape.length && (tape.signs[start] == 10 || tape.signs[start] == 32)) {
                 start++;
             }
             end = start;
@@ -473,9 +473,9 @@ public final class NextLight {
                 return;
             }
             int sign = tape.signs[start];
-            if (isLetter(sign)) {
+            if (sign >= 'a' && sign <= 'z') {
                 takeWord();
-            } else if (isDigit(sign)) {
+            } else if (sign >= '0' && sign <= '9') {
                 takeNumber();
             } else {
                 end = start + 1;
@@ -498,7 +498,7 @@ public final class NextLight {
 
         private void takeWord() {
             letters = 0;
-            while (end < tape.length && isLetter(tape.signs[end])) {
+            while (end < tape.length && tape.signs[end] >= 'a' && tape.signs[end] <= 'z') {
                 letters = letters << 5 | (tape.signs[end] - 'a' + 1);
                 end++;
             }
@@ -513,23 +513,11 @@ public final class NextLight {
 
         private void takeNumber() {
             value = 0;
-            while (end < tape.length && isDigit(tape.signs[end])) {
+            while (end < tape.length && tape.signs[end] >= '0' && tape.signs[end] <= '9') {
                 value = value * 10 + tape.signs[end] - '0';
                 end++;
             }
             kind = end - start <= MOST_DIGITS ? NUMBER : NO_TOKEN;
-        }
-
-        private static boolean isBlank(int sign) {
-            return sign == 10 || sign == 32;
-        }
-
-        private static boolean isLetter(int sign) {
-            return sign >= 'a' && sign <= 'z';
-        }
-
-        private static boolean isDigit(int sign) {
-            return sign >= '0' && sign <= '9';
         }
     }
 
@@ -559,7 +547,25 @@ public final class NextLight {
             fault = 0;
             tokens.restart();
             for (int i = 0; i < Tape.MOST && fault == 0 && tokens.kind != Tokens.END; i++) {
-                readTownLine(town);
+                switch (tokens.kind == Tokens.WORD ? tokens.value : NONE) {
+                    case Tokens.PLACE:
+                        readPlace(town);
+                        break;
+                    case Tokens.LANE:
+                        readLane(town);
+                        break;
+                    case Tokens.WALKER:
+                        readWalker(town);
+                        break;
+                    case Tokens.BOY:
+                        readBoy(town);
+                        break;
+                    case Tokens.BURNS:
+                        readLaw(town);
+                        break;
+                    default:
+                        wrong(MISPLACED);
+                }
             }
             if (fault == 0) {
                 town.findWays();
@@ -580,23 +586,6 @@ public final class NextLight {
         private boolean wrong(int kind) {
             fault = kind + 16 * tokens.start;
             return false;
-        }
-
-        private boolean readTownLine(Town town) {
-            switch (tokens.kind == Tokens.WORD ? tokens.value : NONE) {
-                case Tokens.PLACE:
-                    return readPlace(town);
-                case Tokens.LANE:
-                    return readLane(town);
-                case Tokens.WALKER:
-                    return readWalker(town);
-                case Tokens.BOY:
-                    return readBoy(town);
-                case Tokens.BURNS:
-                    return readLaw(town);
-                default:
-                    return wrong(MISPLACED);
-            }
         }
 
         private boolean readPlace(Town town) {
@@ -897,11 +886,9 @@ public final class NextLight {
 
         /** For how many minutes a LANE burns. */
         int tells(int told, int left, int feet, int late) {
-            int value = length == 0 ? told : valueOf(told, left, feet, late);
-            return value < 0 ? 0 : value > MOST_TELLS ? MOST_TELLS : value;
-        }
-
-        private int valueOf(int told, int left, int feet, int late) {
+            if (length == 0) {
+                return Math.min(told, MOST_TELLS);
+            }
             int many = 0;
             for (int i = 0; i < length; i++) {
                 int step = steps[i];
@@ -916,7 +903,7 @@ public final class NextLight {
                     held[many - 1] = joined(step, held[many - 1], held[many]);
                 }
             }
-            return held[0];
+            return Math.max(0, Math.min(held[0], MOST_TELLS));
         }
 
         private static int joined(int step, int a, int b) {
@@ -1222,7 +1209,7 @@ public final class NextLight {
             }
             for (int walker = 0; walker < town.walkers; walker++) {
                 int lane = laneAhead(town, walker);
-                if (lane != NONE) {
+                if (town.hasLane(lane)) {
                     goAlong(town, walker, lane);
                 }
             }
@@ -1290,7 +1277,7 @@ public final class NextLight {
             }
             if (verb == Tokens.SEND) {
                 int lane = town.laneBetween(first, second);
-                if (lane == NONE) {
+                if (!town.hasLane(lane)) {
                     return false;
                 }
                 sendBoy(town, lane);
@@ -1491,15 +1478,10 @@ public final class NextLight {
             return night.lit[lane];
         }
 
-        int bestDelay(Town town, Night now, int walker) {
-            if (!delayKnown) {
-                tryDelays(town, now);
-                delayKnown = true;
+        void findDelays(Town town, Night now) {
+            if (delayKnown) {
+                return;
             }
-            return walker == NONE ? delayDark : delays[walker];
-        }
-
-        private void tryDelays(Town town, Night now) {
             int home = now.homeBits(town);
             int rows = 1;
             for (int walker = 0; walker < town.walkers; walker++) {
@@ -1510,6 +1492,7 @@ public final class NextLight {
             for (int row = 0; row < rows && row < MOST_ROWS; row++) {
                 tryRow(town, now, home, row);
             }
+            delayKnown = true;
         }
 
         private void tryRow(Town town, Night now, int home, int row) {
@@ -1613,10 +1596,12 @@ public final class NextLight {
                 night.pass(town, 0);
                 int came = night.homeBits(town) & ~home;
                 int many = Integer.bitCount(night.litBits(town));
-                int first = Integer.numberOfTrailingZeros(came);
-                if (came != 0 && (many > most || many == most && first < best)) {
-                    best = first;
-                    most = many;
+                for (int walker = 0; walker < town.walkers; walker++) {
+                    boolean better = many > most || many == most && walker < best;
+                    if ((came >> walker & 1) == 1 && better) {
+                        best = walker;
+                        most = many;
+                    }
                 }
                 home |= came;
             }
