@@ -129,7 +129,7 @@ public final class NextLight {
     }
 
     public int way(int from, int to) {
-        return town.hasPlace(from) && town.hasPlace(to) ? town.lanesOfWay(from, to) : NONE;
+        return town.lanesOfWay(from, to);
     }
 
     public int next(int walker) {
@@ -588,100 +588,100 @@ public final class NextLight {
             return false;
         }
 
-        private boolean readPlace(Town town) {
+        private void readPlace(Town town) {
             if (town.places >= MOST_PLACES) {
-                return wrong(TOO_MANY);
+                wrong(TOO_MANY);
+                return;
             }
             tokens.advance();
             if (!isNewName(town)) {
-                return false;
+                return;
             }
             long name = tokens.letters;
             tokens.advance();
-            if (!readSign(';')) {
-                return false;
+            if (readSign(';')) {
+                town.addPlace(name);
             }
-            town.addPlace(name);
-            return true;
         }
 
-        private boolean readLane(Town town) {
+        private void readLane(Town town) {
             if (town.lanes >= MOST_LANES) {
-                return wrong(TOO_MANY);
+                wrong(TOO_MANY);
+                return;
             }
             tokens.advance();
             int from = readPlaceName(town);
             if (from == NONE) {
-                return false;
+                return;
             }
             if (isPlaceName(town)) {
                 int same = town.placeNamed(tokens.letters);
                 if (same == from || town.laneBetween(from, same) != NONE) {
-                    return wrong(TOLD_ALREADY);
+                    wrong(TOLD_ALREADY);
+                    return;
                 }
             }
             int to = readPlaceName(town);
             if (to == NONE || !readWord(Tokens.BURNS)) {
-                return false;
+                return;
             }
             int told = readNumber(MOST_TOLD);
-            if (told == NONE || !readSign(';')) {
-                return false;
+            if (told != NONE && readSign(';')) {
+                town.addLane(from, to, told);
             }
-            town.addLane(from, to, told);
-            return true;
         }
 
-        private boolean readWalker(Town town) {
+        private void readWalker(Town town) {
             if (town.walkers >= MOST_WALKERS) {
-                return wrong(TOO_MANY);
+                wrong(TOO_MANY);
+                return;
             }
             tokens.advance();
             if (!isNewName(town)) {
-                return false;
+                return;
             }
             long name = tokens.letters;
             tokens.advance();
             int kind = readKind();
             if (kind == NONE || !readWord(Tokens.FROM)) {
-                return false;
+                return;
             }
             int from = readPlaceName(town);
             if (from == NONE || !readWord(Tokens.TO)) {
-                return false;
+                return;
             }
             int to = readPlaceName(town);
             if (to == NONE || !readWord(Tokens.AT)) {
-                return false;
+                return;
             }
             int at = readNumber(MOST_AT);
-            if (at == NONE || !readSign(';')) {
-                return false;
+            if (at != NONE && readSign(';')) {
+                town.addWalker(name, kind, from, to, at);
             }
-            town.addWalker(name, kind, from, to, at);
-            return true;
         }
 
-        private boolean readBoy(Town town) {
+        private void readBoy(Town town) {
             if (town.costTold) {
-                return wrong(TOLD_ALREADY);
+                wrong(TOLD_ALREADY);
+                return;
             }
             tokens.advance();
             int cost = readNumber(MOST_COST);
-            if (cost == NONE || !readSign(';')) {
-                return false;
+            if (cost != NONE && readSign(';')) {
+                town.cost = cost;
+                town.costTold = true;
             }
-            town.cost = cost;
-            town.costTold = true;
-            return true;
         }
 
-        private boolean readLaw(Town town) {
+        private void readLaw(Town town) {
             if (town.law.length > 0) {
-                return wrong(TOLD_ALREADY);
+                wrong(TOLD_ALREADY);
+                return;
             }
             tokens.advance();
-            return readLevel(town.law, 0, 0) && readSign(';');
+            if (readLevel(town.law, 0, 0)) {
+                readSign(';');
+            }
         }
 
         /** Levels 0 to 3: and or, < =, + -, *; what binds looser is the level before. */
@@ -745,13 +745,15 @@ public final class NextLight {
             return true;
         }
 
-        private boolean readEveningLine(Lines lines, Town town) {
+        private void readEveningLine(Lines lines, Town town) {
             int verb = tokens.kind == Tokens.WORD ? tokens.value : NONE;
             if (verb < Tokens.MINUTE || verb > Tokens.BACK) {
-                return wrong(MISPLACED);
+                wrong(MISPLACED);
+                return;
             }
             if (lines.many >= Lines.MOST) {
-                return wrong(TOO_MANY);
+                wrong(TOO_MANY);
+                return;
             }
             tokens.advance();
             int first = NONE;
@@ -759,26 +761,25 @@ public final class NextLight {
             if (verb == Tokens.SEND) {
                 first = readPlaceName(town);
                 if (first == NONE) {
-                    return false;
+                    return;
                 }
                 if (isPlaceName(town) && town.placeNamed(tokens.letters) == first) {
-                    return wrong(TOLD_ALREADY);
+                    wrong(TOLD_ALREADY);
+                    return;
                 }
                 second = readPlaceName(town);
                 if (second == NONE) {
-                    return false;
+                    return;
                 }
             } else if (verb != Tokens.MINUTE) {
                 first = readWalkerName(town);
                 if (first == NONE) {
-                    return false;
+                    return;
                 }
             }
-            if (!readSign(';')) {
-                return false;
+            if (readSign(';')) {
+                lines.add(verb, first, second);
             }
-            lines.add(verb, first, second);
-            return true;
         }
 
         private boolean isNewName(Town town) {
@@ -1039,8 +1040,10 @@ public final class NextLight {
             return hasPlace(from) && hasPlace(to) ? wayLengths[from * MOST_PLACES + to] : NONE;
         }
 
+        /** Asked most of all, so it looks at the PLACES by itself. */
         int firstLane(int from, int to) {
-            return hasPlace(from) && hasPlace(to) ? firstLanes[from * MOST_PLACES + to] : NONE;
+            boolean both = from >= 0 && from < places && to >= 0 && to < places;
+            return both ? firstLanes[from * MOST_PLACES + to] : NONE;
         }
 
         void findWays() {

@@ -20,6 +20,8 @@ public final class HandTest {
         undoing();
         judging();
         marking();
+        markedLines();
+        beginning();
         counting();
         Check.finish();
     }
@@ -383,6 +385,57 @@ public final class HandTest {
         Check.evening(x, "minute;");
         Check.due("3 keeps its own", x.mark(3, true), true);
         Check.due("two lines", x.count(8), 2);
+    }
+
+    private static void markedLines() {
+        NextLight x = Check.in(STREET);
+        Check.evening(x, "minute;send a b;wait p;back d;");
+        x.watch(0, 1, true);
+        x.watch(1, 3, false);
+        int sets = x.sets(0);
+        x.mark(1, false);
+        Check.evening(x, "send b c;wait l;back p;minute;");
+        Check.due("another evening", x.judged(0) * 10 + x.judged(1), -11);
+        x.mark(2, false);
+        x.mark(1, true);
+        Check.due("the evening of the mark", x.judged(0) * 10 + x.judged(1), 30);
+        x.mark(2, true);
+        Check.due("and of the other one", x.judged(0) * 10 + x.judged(1), -11);
+        NextLight y = Check.in(STREET);
+        y.mark(0, false);
+        y.watch(1, 5, true);
+        y.watch(0, 2, false);
+        y.mark(3, false);
+        y.mark(0, true);
+        y.watch(0, 1, true);
+        y.watch(1, 3, false);
+        Check.due("watched anew", y.sets(0), sets);
+        y.mark(0, true);
+        Check.due("nothing is watched", y.sets(0), 16);
+        y.watch(0, 7, true);
+        y.mark(3, true);
+        Check.due("d alone fits what the mark holds", y.sets(0) * 100 + y.sets(1) * 10 + y.sets(2), 188);
+    }
+
+    private static void beginning() {
+        String town = "place a;place b;lane a b burns 0;walker d drunk from a to b at 0;walker e plain from b to a at 0;";
+        NextLight x = Check.in(town);
+        x.minute();
+        Check.evening(x, "minute;minute;minute;minute;");
+        Check.due("judged from the beginning", x.judged(2), 4);
+        Check.due("nights from the beginning", x.nights(3, 2, 0), 8);
+        Check.due("the same town again", Check.town(x, town), 0);
+        Check.due("where he comes from", x.walker(0, 1), 0);
+        Check.due("with three minutes to go", x.home(0), 3);
+        for (int i = 0; i < 2; i++) {
+            Check.town(x, town + "boy 7;burns 5;");
+            Check.due("burns 5", x.send(0, 1) * 10 + x.count(6), 57);
+            Check.due("and as if nothing had been told " + i, Check.town(x, town), 0);
+            Check.due("burns 0", x.send(0, 1) * 10 + x.count(6), 3);
+            Check.due("told once more " + i, Check.town(x, town), 0);
+            Check.due("burns 0 again", x.send(0, 1) * 10 + x.count(6), 3);
+            Check.due("an empty town " + i, Check.town(x, ""), 0);
+        }
     }
 
     private static void counting() {
