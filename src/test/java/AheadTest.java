@@ -9,6 +9,7 @@ public final class AheadTest {
         darksAndHome();
         glowAndBurns();
         delays();
+        delayTies();
         boys();
         alarmAndBlind();
         meeting();
@@ -116,6 +117,21 @@ public final class AheadTest {
         Check.due("in the dark again", t.delay(-1), 1);
         t.back(0);
         Check.due("home", t.delay(-1), 0);
+    }
+
+    private static void delayTies() {
+        NextLight x = Check.in("place a;place b;place c;lane a b burns 0;lane b c burns 1;"
+            + "walker p blind from c to a at 4;walker q drunk from b to c at 4;walker r lamp from c to a at 1;");
+        Check.due("no dark", x.delay(-1), 0);
+        row("q waits once for p, sooner than r twice for q:", x, new int[] {0, 1, 0}, x::delay);
+        NextLight y = Check.in("place a;place b;place c;lane a b burns 2;lane b c burns 1;"
+            + "walker p lamp from c to a at 1;walker q lamp from c to b at 0;walker r drunk from b to c at 3;");
+        Check.due("no dark", y.delay(-1), 0);
+        row("p waits once, sooner than q twice:", y, new int[] {1, 0, 0}, y::delay);
+        NextLight z = Check.in("place a;place b;lane a b burns 2;walker p plain from a to b at 0;"
+            + "walker q plain from b to a at 0;walker r plain from a to b at 0;");
+        Check.due("one is dark", z.delay(-1), 1);
+        row("two wait once, the later ones:", z, new int[] {0, 1, 1}, z::delay);
     }
 
     private static void boys() {

@@ -412,7 +412,7 @@ public final class HandTest {
         Check.due("watched anew", y.sets(0), sets);
         y.mark(0, true);
         Check.due("nothing is watched", y.sets(0), 16);
-        y.watch(0, 7, true);
+        y.watch(0, 7, false);
         y.mark(3, true);
         Check.due("d alone fits what the mark holds", y.sets(0) * 100 + y.sets(1) * 10 + y.sets(2), 188);
     }
