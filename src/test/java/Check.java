@@ -70,6 +70,36 @@ final class Check {
         return x;
     }
 
+    /** All that can be seen of how it is, of the EVENING, of what is WATCHED; some 90 calls at most. */
+    static String state(NextLight x) {
+        StringBuilder seen = new StringBuilder();
+        for (int what = 0; what <= 11; what++) {
+            seen.append(x.count(what)).append(' ');
+        }
+        for (int lane = 0; lane < x.count(1); lane++) {
+            for (int what = 0; what <= 3; what++) {
+                seen.append(x.lane(lane, what)).append(' ');
+            }
+        }
+        for (int walker = 0; walker < x.count(2); walker++) {
+            for (int what = 0; what <= 5; what++) {
+                seen.append(x.walker(walker, what)).append(' ');
+            }
+        }
+        for (int what = 0; what <= 2; what++) {
+            seen.append(x.judged(what)).append(' ').append(x.sets(what)).append(' ');
+        }
+        return seen.toString();
+    }
+
+    static void same(String what, String got, String want) {
+        asked++;
+        if (!got.equals(want)) {
+            wrong++;
+            System.out.println(what + " is " + got + ", due is " + want);
+        }
+    }
+
     static void finish() {
         System.out.println(asked - wrong + " answers as due, " + wrong + " not");
         if (wrong != 0 || asked == 0) {

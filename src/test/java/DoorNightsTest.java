@@ -11,9 +11,9 @@ public final class DoorNightsTest {
     }
 
     private static void everyDoor() {
-        NextLight x = new NextLight();
         for (int both = 0; both <= 9; both++) {
             for (int loses = 0; loses <= 9; loses++) {
+                NextLight x = new NextLight();
                 for (int gets = 0; gets <= 9; gets++) {
                     door(x, both, loses, gets);
                 }
