@@ -1408,6 +1408,8 @@ public final class NextLight {
     private static final class Ahead {
         static final int MOST_ROWS = 729;
         static final int DRAW_BELOW = 31;
+        /** More often than it can be the DARK in 99 MINUTES. */
+        static final int MORE_THAN_EVER = 1000000;
 
         final Night night = new Night();
         final int[] tried = new int[MOST_WALKERS];
@@ -1490,7 +1492,7 @@ public final class NextLight {
             for (int walker = 0; walker < town.walkers; walker++) {
                 rows *= (home >> walker & 1) == 1 ? 1 : 3;
             }
-            delayDark = Integer.MAX_VALUE;
+            delayDark = MORE_THAN_EVER;
             delayWaits = 0;
             for (int row = 0; row < rows && row < MOST_ROWS; row++) {
                 tryRow(town, now, home, row);
@@ -1697,7 +1699,7 @@ public final class NextLight {
 
         int darkTimesIfLonger(Town town, Night now, int longer) {
             night.copyFrom(now);
-            return darkTimesOfAll(town, longer, Integer.MAX_VALUE);
+            return darkTimesOfAll(town, longer, MORE_THAN_EVER);
         }
 
         int drawnNights(Town town, int seed, int many, int what) {

@@ -20,6 +20,7 @@ public final class AheadEdgesTest {
         glowOfEqualOnes();
         burnsOfEveryMinute();
         noneToTwoWaits();
+        everyRowOfTwo();
         lastRowOfAll();
         whatWasIsNotCounted();
         allLanes();
@@ -155,6 +156,9 @@ public final class AheadEdgesTest {
             Check.due("the lamp does not wait", x.delay(1), 0);
             Check.due("beyond", x.delay(2), -2);
             Check.due("far beyond", x.delay(-2), -2);
+            NextLight y = Check.in(PAIR + "9;walker l lamp from b to a at " + lamp + ";walker v plain from a to b at 1;");
+            Check.due("dark, the other way round, lamp at " + lamp, y.delay(-1), due[lamp][0]);
+            Check.due("waits, the other way round, lamp at " + lamp, y.delay(0) * 10 + y.delay(1), due[lamp][1]);
         }
         NextLight late = Check.in(PAIR + "9;walker v plain from a to b at 0;walker l lamp from b to a at 4;");
         late.minute();
@@ -167,6 +171,23 @@ public final class AheadEdgesTest {
         Check.due("from minute 1 he can wait till 3 alone", now.delay(-1) * 10 + now.delay(0), 10);
         now.waits(0);
         Check.due("then till 4", now.delay(-1) * 10 + now.delay(0), 2);
+    }
+
+    /** A lamp lights the LANE only in one minute, for which it waits; the plain one must come behind it. */
+    private static void everyRowOfTwo() {
+        for (int lamp = 0; lamp <= 2; lamp++) {
+            for (int plain = 0; plain <= Math.min(lamp + 1, 2); plain++) {
+                String first = "walker l lamp from a to b at 0;";
+                String second = "walker p plain from a to b at " + (lamp + 1 - plain) + ";";
+                String law = "burns (late=" + lamp + ")*9;";
+                NextLight x = Check.in(PAIR + "0;" + first + second + law);
+                Check.due("no dark", x.delay(-1), 0);
+                Check.due("the row", x.delay(0) * 10 + x.delay(1), lamp * 10 + plain);
+                NextLight y = Check.in(PAIR + "0;" + second + first + law);
+                Check.due("no dark", y.delay(-1), 0);
+                Check.due("the row the other way round", y.delay(0) * 10 + y.delay(1), plain * 10 + lamp);
+            }
+        }
     }
 
     /** Five lamps must meet in minute 2, and the plain one come in 3: all six wait twice, the last row of all. */
@@ -232,6 +253,10 @@ public final class AheadEdgesTest {
         NextLight three = Check.in(ALL_LANES.replace("N", "3"));
         three.minute();
         Check.due("two lanes, one of them in the dark for each", three.boys(), 1 << 3 | 1 << 7);
+        for (int told = 1; told <= 3; told++) {
+            NextLight lamp = Check.in(PAIR + told + ";walker l lamp from a to b at 0;walker v plain from a to b at 2;");
+            Check.due("a lamp goes before, told " + told, lamp.boys(), told < 2 ? -1 : 0);
+        }
     }
 
     private static void blindAndAlarm() {

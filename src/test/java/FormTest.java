@@ -22,7 +22,7 @@ public final class FormTest {
         + "public int rests(int,int,int,int) throws java.util.NoSuchElementException;"
         + "public int nights(int,int,int);public boolean mark(int,boolean);public int count(int)";
     private static final String[] NEVER = {"->", "::", "catch", "finally", "synchronized", "assert", "Exact(",
-        "static {", "import java.util.List", "System.out", "Random", "String.format", "while (true)", "for (;;)",
+        "static {", "import java.util.List", "System.out", "Random", "MAX_VALUE", "MIN_VALUE", "String.format", "while (true)", "for (;;)",
         "protected", "\" +", "+ \"", "double", "float", "this::", "equals(", "hashCode", "toString"};
 
     public static void main(String[] args) throws IOException {
